@@ -867,11 +867,12 @@ public final class CoinErrands {
         }
 
         int countArriving() {
-            int count = 0;
-            while (isOnItsWay(count) && messages[count].arrives <= time) {
-                count++;
+            for (int i = 0; i < onTheirWay && i < messages.length; i++) {
+                if (messages[i].arrives > time) {
+                    return i;
+                }
             }
-            return count;
+            return onTheirWay;
         }
 
         /** What this sends arrives later, so the message stays the first one until it is taken out. */
@@ -952,7 +953,7 @@ public final class CoinErrands {
         }
 
         boolean isMoreThanGrainsOnItsWay() {
-            for (int i = 0; isOnItsWay(i); i++) {
+            for (int i = 0; i < onTheirWay && i < messages.length; i++) {
                 if (messages[i].kind != HOME) {
                     return true;
                 }
@@ -999,7 +1000,7 @@ public final class CoinErrands {
 
         int grainsOnTheirWay() {
             int grains = 0;
-            for (int i = 0; isOnItsWay(i); i++) {
+            for (int i = 0; i < onTheirWay && i < messages.length; i++) {
                 grains += messages[i].grains;
             }
             return grains;
@@ -1011,7 +1012,7 @@ public final class CoinErrands {
             for (House house : houses) {
                 all += house.errandsWithin();
             }
-            for (int i = 0; isOnItsWay(i); i++) {
+            for (int i = 0; i < onTheirWay && i < messages.length; i++) {
                 all += messages[i].errands();
             }
             return all;

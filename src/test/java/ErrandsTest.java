@@ -12,8 +12,10 @@ public final class ErrandsTest {
         busyWhileThereIsWork();
         orderOfSending();
         passWantsTicks();
+        timeHasAnEnd();
         loseAnErrand();
         loseAnAsk();
+        loseAnAskAndUndo();
         loseAGrant();
         makeGoodByNumbers();
         CHECK.end();
@@ -69,6 +71,23 @@ public final class ErrandsTest {
         CHECK.due("nor for nine", CoinErrands.FULL, x.launch());
         Check.retype(x, "0:0;0:0;0:0;0:0;0:0;0:0;0:0;0:0");
         CHECK.due("but for eight", 8, x.launch());
+
+        x = new CoinErrands();
+        x.set(0, 2);
+        x.set(1, 99);
+        Check.type(x, "0:0(1:0(2:0(3:0)),4:0(5:0))");
+        for (int i = 0; i < 13; i++) {
+            CHECK.due("launch six errands", 1, x.launch());
+            x.pass(3);
+        }
+        CHECK.due("26 wait, with 39 within", 26, x.house(0, 3));
+        CHECK.due("65 and six", 1, x.launch());
+        CHECK.due("71 and six", 1, x.launch());
+        CHECK.due("77 and six", CoinErrands.FULL, x.launch());
+        Check.retype(x, "0:0;0:0;0:0;0:0");
+        CHECK.due("77 and four", CoinErrands.FULL, x.launch());
+        Check.retype(x, "0:0;0:0;0:0");
+        CHECK.due("77 and three", 3, x.launch());
     }
 
     private static int errandsOnTheirWay(CoinErrands x) {
@@ -245,6 +264,20 @@ public final class ErrandsTest {
         CHECK.due("changes", 2, x.total(15));
     }
 
+    /** It takes more calls than are promised, but the limit of the time is named. */
+    private static void timeHasAnEnd() {
+        CoinErrands x = new CoinErrands();
+        x.pass(50);
+        for (int i = 1; i < 10000; i++) {
+            x.pass(100);
+        }
+        CHECK.due("pass 51", CoinErrands.FULL, x.pass(51));
+        CHECK.due("pass 101", CoinErrands.OUT_OF_RANGE, x.pass(101));
+        CHECK.due("pass 50", 1000000, x.pass(50));
+        CHECK.due("pass 1", CoinErrands.FULL, x.pass(1));
+        CHECK.due("time", 1000000, x.total(0));
+    }
+
     private static void loseAnErrand() {
         CoinErrands x = Check.launched("0:5(1:1);2:1");
         CHECK.due("lose -1", CoinErrands.OUT_OF_RANGE, x.lose(-1));
@@ -306,8 +339,37 @@ public final class ErrandsTest {
         CHECK.due("no ask is needed", 1, x.house(4, 7));
         CHECK.due("none is out", 0, x.house(4, 4));
         CHECK.due("idle after a tick", 1, x.house(4, 0));
+        CHECK.due("the part is on its way for 2 ticks", 2, x.idleIn());
+        x.lose(0);
+        CHECK.due("then only the house is to be waited for", 1, x.idleIn());
         x.pass(1);
         CHECK.due("idle", 0, x.house(4, 0));
+    }
+
+    private static void loseAnAskAndUndo() {
+        CoinErrands x = asking();
+        x.lose(0);
+        x.makeGood();
+        Check.retype(x, "0:0");
+        x.launch();
+        x.lose(1);
+        CHECK.due("another message is made good", 4, x.makeGood());
+        CHECK.due("the ask that was made good before is out", 2, x.house(4, 7));
+        CHECK.due("and not sent again", 1, x.total(6));
+
+        x = asking();
+        x.lose(0);
+        x.makeGood();
+        x.undo();
+        CHECK.due("the ask is lost again", 0, x.makeGood());
+        CHECK.due("and asked anew", 2, x.house(4, 7));
+        x.undo();
+        x.undo();
+        Check.retype(x, "0:0");
+        x.launch();
+        x.lose(1);
+        CHECK.due("only the errand is lost", 4, x.makeGood());
+        CHECK.due("nothing is asked anew", 1, x.house(4, 7));
     }
 
     private static void loseAGrant() {

@@ -22,6 +22,7 @@ public final class ManyRunsTest {
         for (int run = 0; run < RUNS; run++) {
             new ManyRunsTest(run).go();
         }
+        new ManyRunsTest(RUNS).crowd();
         CHECK.end();
     }
 
@@ -31,6 +32,28 @@ public final class ManyRunsTest {
             step(call);
         }
         lookAtAll(CALLS);
+    }
+
+    /** As many messages as there can be: errands up to the limit, and six houses idle in each tick. */
+    private void crowd() {
+        for (int house = 0; house < 6; house++) {
+            both("setBankTime", plain.setBankTime(house, 9), x.setBankTime(house, 9));
+        }
+        for (char character : "0:0;1:0;2:0;3:0;4:0;5:0;0:0;1:0".toCharArray()) {
+            type(character);
+        }
+        int most = 0;
+        for (int call = 0; call < 100; call++) {
+            both("launch", plain.launch(), x.launch());
+            if (call % 30 == 29) {
+                both("launch up to 80", plain.launch(), x.launch());
+            }
+            lookAtAll(call);
+            most = Math.max(most, plain.total(6));
+            both("quietIn", plain.quietIn(), x.quietIn());
+            both("pass 1", plain.pass(1), x.pass(1));
+        }
+        both("80 errands and 54 messages home", 80 + 54, most);
     }
 
     /** Small coins and large parts in some runs, so that houses have to ask. */
