@@ -748,12 +748,17 @@ public final class CoinErrands {
         }
 
         int way(int one, int other) {
-            return ways[one * PLACES + other];
+            int place = one * PLACES + other;
+            return place >= 0 && place < ways.length ? ways[place] : UNKNOWN;
         }
 
         void putWay(int one, int other, int ticks) {
-            ways[one * PLACES + other] = ticks;
-            ways[other * PLACES + one] = ticks;
+            int forth = one * PLACES + other;
+            int reverse = other * PLACES + one;
+            if (forth >= 0 && forth < ways.length && reverse >= 0 && reverse < ways.length) {
+                ways[forth] = ticks;
+                ways[reverse] = ticks;
+            }
         }
 
         int mint() {
@@ -805,11 +810,13 @@ public final class CoinErrands {
                 return;
             }
             Message message = messages[rank];
-            for (int i = rank; i + 1 < onTheirWay; i++) {
-                messages[i] = messages[i + 1];
+            int last = rank;
+            while (last + 1 < onTheirWay && last + 1 < messages.length) {
+                messages[last] = messages[last + 1];
+                last++;
             }
-            onTheirWay--;
-            messages[onTheirWay] = message;
+            messages[last] = message;
+            onTheirWay = last;
         }
 
         int dropMessage(int rank) {
