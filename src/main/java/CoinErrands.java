@@ -591,7 +591,7 @@ public final class CoinErrands {
             sent = other.sent;
             asks = other.asks;
             idles = other.idles;
-            for (int i = 0; i < waits && i < line.length; i++) {
+            for (int i = 0; i < waits && i < line.length && i < other.line.length; i++) {
                 line[i] = other.line[i];
             }
         }
@@ -706,11 +706,11 @@ public final class CoinErrands {
             power = other.power;
             leastPart = other.leastPart;
             copyWays(other);
-            for (int i = 0; i < houses.length; i++) {
+            for (int i = 0; i < houses.length && i < other.houses.length; i++) {
                 houses[i].copyFrom(other.houses[i]);
             }
             onTheirWay = other.onTheirWay;
-            for (int i = 0; i < onTheirWay && i < messages.length; i++) {
+            for (int i = 0; isOnItsWay(i) && i < other.messages.length; i++) {
                 messages[i].copyFrom(other.messages[i]);
             }
             minted = other.minted;
@@ -742,7 +742,7 @@ public final class CoinErrands {
         }
 
         void copyWays(State other) {
-            for (int i = 0; i < ways.length; i++) {
+            for (int i = 0; i < ways.length && i < other.ways.length; i++) {
                 ways[i] = other.ways[i];
             }
         }
